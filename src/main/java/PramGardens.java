@@ -332,8 +332,7 @@ public final class PramGardens {
         int reached = paths.spread(field, NONE);
         int farthest = field;
         for (int other = 0; other < garden.size; other++) {
-            int nearer = paths.distanceTo(farthest);
-            if (paths.distanceTo(other) > nearer || paths.distanceTo(other) == nearer && other < farthest) {
+            if (paths.distanceTo(other) > paths.distanceTo(farthest)) {
                 farthest = other;
             }
         }
@@ -681,9 +680,6 @@ public final class PramGardens {
             return NONE;
         }
         numbers.clear();
-        if (isLost(a, b, c)) {
-            return 0;
-        }
         for (int heap = 0; heap < 3; heap++) {
             int toys = heap == 0 ? a : heap == 1 ? b : c;
             for (int take = 1; take <= 3 && take <= toys; take++) {
@@ -693,7 +689,7 @@ public final class PramGardens {
                 }
             }
         }
-        return 1;
+        return 0;
     }
 
     /** Of 1 .. 3 out of a heap only the rest by 4 counts, and heaps weigh together as in nim. */
@@ -1601,13 +1597,12 @@ public final class PramGardens {
         }
 
         int chooseStands(int all) {
-            for (int fewest = 0; fewest < SIGHTS; fewest++) {
+            for (int fewest = 0; fewest <= SIGHTS; fewest++) {
                 if (isChosen(all, 0, 0, fewest)) {
                     return fewest;
                 }
             }
-            isChosen(all, 0, 0, SIGHTS);
-            return SIGHTS;
+            return NONE;
         }
 
         /** Tries the stands in rising order, so that the first choice that does is the least row. */

@@ -86,6 +86,13 @@ public final class LawsTest {
         g.saw(1, 0, 0);
         check.is("none fits", g.looks(), -2);
         check.row("the ROW stays", g, 1);
+        g.denies();
+        g.saw(4, 5, 1);
+        check.is("a 4 or 5, b 5 or 6", g.looks(), 16);
+        check.row("a 4 or 5, b 5 or 6", g, 2);
+        g.saw(1, 6, 0);
+        check.is("a 4 or 5, b 5", g.looks(), 50);
+        check.row("a 4 or 5, b 5", g, 1);
     }
 
     private static void heard() {
@@ -161,6 +168,15 @@ public final class LawsTest {
         like.catches(1);
         like.faces(2, 1);
         check.is("by WAY", like.asks(), 20);
+        PramGardens highest = Check.garden("66" + ".".repeat(36), "010;510");
+        check.is("by ROW", highest.asks(), 0);
+        PramGardens far = Check.garden("66" + ".".repeat(36), "000;550;550");
+        far.heard(0, 5);
+        check.is("alike ones far off", far.asks(), 0);
+        far.sheet(0, 3, 32, 0);
+        far.forgets(1, 5);
+        check.is("by the highest SIGHT", far.asks(), 35);
+        check.row("by the highest SIGHT", far, 1);
         check.is("without PRAMS", new PramGardens().asks(), -2);
     }
 }

@@ -37,6 +37,10 @@ public final class PushingTest {
         check.row("pushes(0, 1)", g, 1, 3);
         check.is("it can be undone", g.count(10), 5);
         check.is("MINUTE stays", g.count(5), 0);
+        check.is("undo()", g.undo(), 4);
+        check.is("FIELD behind undo()", g.pram(0, 0), 0);
+        check.is("WAY behind undo()", g.pram(0, 1), 0);
+        check.is("VIEWS behind undo()", g.pram(0, 2), 5);
     }
 
     private static void pushedRefused() {
@@ -98,6 +102,14 @@ public final class PushingTest {
         check.is("LOOSE", g.faces(1, 1), -2);
         check.is("LOOSE ahead of WAY", g.faces(1, 0), -2);
         check.row("the one done", g, 1, 2);
+        check.is("undo() of looses()", g.undo(), 4);
+        check.is("LOOSE behind undo()", g.count(6), 0);
+        check.is("undo()", g.undo(), 3);
+        check.is("WAY behind undo()", g.pram(0, 1), 2);
+        check.is("undo()", g.undo(), 2);
+        check.is("WAY behind undo()", g.pram(0, 1), 1);
+        check.is("undo()", g.undo(), 1);
+        check.is("VIEWS behind undo()", g.pram(0, 2), 1);
     }
 
     private static void letGoAndCaught() {
@@ -215,6 +227,11 @@ public final class PushingTest {
         check.is("FIELD behind undo()", g.pram(0, 0), 6);
         check.is("VIEWS behind undo()", g.count(7), 0);
         check.is("MINUTE behind undo()", g.count(5), 0);
+        check.is("one act alone", Check.write(g, "n3").walk(), 1);
+        check.is("one act alone can be undone", g.count(10), 1);
+        check.is("one act ahead of a refused one", Check.write(g, "n3n2c0").walk(), 2);
+        check.is("undo()", g.undo(), 1);
+        check.is("MINUTE behind undo()", g.count(5), 3);
     }
 
     private static void walksRefused() {
@@ -228,10 +245,10 @@ public final class PushingTest {
         check.row("the first is refused", g, 1, 1);
         check.is("none more can be undone", g.count(10), 1);
         check.is("MINUTE", g.count(5), 0);
-        String[] wrong = {"x", "n", "nx", "n1x", "p", "p0", "p04", "p0x", "t14", "f06", "f0", "l", "la", "c-", "n1n", "n1p0", "P00"
+        String[] wrong = {"x", "n", "nx", "n1x", "p", "p0", "p04", "p0x", "t14", "f06", "f0", "l", "la", "c-", "n:", "p:0", "n1n", "n1p0", "P00"
             , "n1".repeat(29) + "n1n", "n1".repeat(30) + "x", "n1".repeat(30) + "n", "n1".repeat(29) + "p00", "n1".repeat(29) + "p0"
             , "n1".repeat(29) + "p", "n1".repeat(29) + "ppp", "n1".repeat(40), "p00".repeat(20) + "n", "n1 n1", "n1;n1", "\u00ee1"};
-        int[] place = {0, 1, 1, 2, 1, 2, 2, 2, 2, 2, 2, 1, 1, 1, 3, 4, 0
+        int[] place = {0, 1, 1, 2, 1, 2, 2, 2, 2, 2, 2, 1, 1, 1, 1, 1, 3, 4, 0
             , 60, 60, 60, 60, 60
             , 59, 59, 60, 60, 2, 2, 0};
         for (int i = 0; i < wrong.length; i++) {
@@ -282,5 +299,16 @@ public final class PushingTest {
         g.catches(0);
         g.undo();
         check.is("undo() of catches()", g.count(6), 1);
+        PramGardens far = Check.garden("66" + ".".repeat(36), "000");
+        for (int i = 0; i < 18; i++) {
+            far.pushes(0, i < 5 ? 1 : i < 10 ? 2 : i < 15 ? 3 : 0);
+        }
+        int[] due = {24, 30, 31, 32, 33, 34, 35, 29, 23, 17, 11, 5, 4, 3};
+        for (int i = 0; i < due.length; i++) {
+            check.is("undo()", far.undo(), 14 - i);
+            check.is("FIELD behind undo()", far.pram(0, 0), i == 0 ? 18 : due[i - 1]);
+        }
+        check.is("the last", far.undo(), 0);
+        check.is("FIELD", far.pram(0, 0), 3);
     }
 }

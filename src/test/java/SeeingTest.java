@@ -153,6 +153,10 @@ public final class SeeingTest {
         check.row("the first of as far ones", open, 2, 0);
         check.is("from the end", open.reach(8), 9);
         check.row("from the end", open, 4, 0);
+        check.is("from the first", open.reach(0), 9);
+        check.row("from the first", open, 4, 8);
+        check.is("from a side", open.reach(3), 9);
+        check.row("from a side", open, 3, 2);
         PramGardens alone = Check.garden("22##.#", "");
         check.is("itself alone", alone.reach(2), 1);
         check.row("itself alone", alone, 0, 2);
@@ -166,6 +170,13 @@ public final class SeeingTest {
         PramGardens like = Check.garden("33.#..#..#.", "");
         check.is("as large ones", like.parts(), 2);
         check.row("the first of as large ones", like, 3, 0);
+        check.is("one", Check.garden("22#.##", "").parts(), 1);
+        PramGardens single = Check.garden("33#.#.#.#.#", "");
+        check.is("single ones", single.parts(), 4);
+        check.row("single ones", single, 1, 1);
+        PramGardens whole = Check.garden("22#...", "");
+        check.is("one of three", whole.parts(), 1);
+        check.row("one of three", whole, 3, 1);
         PramGardens none = Check.garden("22####", "");
         none.saw(1, 1, 1);
         none.laws();
@@ -179,7 +190,11 @@ public final class SeeingTest {
         PramGardens g = Check.garden("33.#.....#.", "");
         check.is("gates()", g.gates(), 3);
         check.row("gates()", g, 3);
+        PramGardens corner = Check.garden("22...#", "");
+        check.is("the first FIELD", corner.gates(), 1);
+        check.row("the first FIELD", corner, 0);
         PramGardens open = Check.garden("33.........", "");
+        open.laws();
         check.is("none", open.gates(), 0);
         check.row("none", open);
         check.is("one alone is none", Check.garden("22.###", "").gates(), 0);

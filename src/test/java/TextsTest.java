@@ -31,6 +31,9 @@ public final class TextsTest {
             check.is("field(" + field + ")", g.field(field), 0);
         }
         check.row("a new object", g);
+        check.is("ways are there", g.way(0, 3), 2);
+        check.is("and PRAMS can come", Check.write(g, "000").prams(), 1);
+        check.is("to be pushed", g.pushes(0, 2), 0);
     }
 
     private static void signs() {
@@ -203,11 +206,11 @@ public final class TextsTest {
         PramGardens g = Check.garden("26....ab......", "001");
         Check.withRule(g, "s");
         String[] wrong = {"x", "-", "+1", "1+", "1+*2", "1 ", "1000", "1(", "d1", "1d", "dd", "(1", "(1))", "()", ")", "((((("
-            , "((((1+(", "1<2<3", "1<2=3", "1<2+3>4", "(1<2<3)", "1=", "=1", "*", "2*/3", "(1<2)<(3<4)<5", "1~2", "~1", "\u00b3"
+            , "((((1+(", "1<2<3", "1<2=3", "1<2+3>4", "(1<2<3)", "1=", "=1", "*", "2*/3", "(1<2)<(3<4)<5", "1~2", "~1", ":", "1:", "\u00b3"
             , "-".repeat(40), "-".repeat(41), "-".repeat(39) + "dd", "-".repeat(38) + "d+", "-".repeat(38) + "d+1"
             , "-".repeat(30) + "x" + "-".repeat(30), "-".repeat(37) + "1000", "-".repeat(36) + "1000d"};
         int[] place = {0, 1, 0, 2, 2, 1, 3, 1, 1, 1, 1, 2, 3, 1, 0, 4
-            , 6, 3, 3, 5, 4, 2, 0, 0, 2, 11, 1, 0, 0
+            , 6, 3, 3, 5, 4, 2, 0, 0, 2, 11, 1, 0, 0, 1, 0
             , 40, 40, 40, 40, 40
             , 30, 40, 39};
         for (int i = 0; i < wrong.length; i++) {

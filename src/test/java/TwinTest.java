@@ -244,6 +244,9 @@ public final class TwinTest {
         for (int i = 0; i < rows * columns; i++) {
             garden.append(style.charAt(random.nextInt(style.length())));
         }
+        if (random.nextInt(4) == 0) {
+            return "26abcdef......";
+        }
         return garden.toString();
     }
 
@@ -260,6 +263,9 @@ public final class TwinTest {
     }
 
     private String aRule() {
+        if (random.nextInt(4) == 0) {
+            return List.of("1", "9-d", "v<5", "6-v", "d=1", "(v=0)+(v=5)+(v-1)*(h=1)", "d>1", "k+(v>2)").get(random.nextInt(8));
+        }
         String rule = random.nextInt(12) == 0 ? "" : random.nextInt(3) == 0 ? aSum(3) : anExpression(4);
         boolean tooLong = rule.length() > 40 && random.nextInt(4) > 0;
         return tooLong ? aRule() : rule;

@@ -29,6 +29,7 @@ public final class ViewsTest {
         check.is("its own WAY counts not, it has to be pushed", g.forms(1, 2), 1);
         check.row("its own WAY", g, 1);
         check.is("one that is not there", g.forms(0, 8), -2);
+        check.is("63 may be told", g.forms(0, 63), -2);
         check.is("64", g.forms(0, 64), -1);
         check.is("-1", g.forms(0, -1), -1);
         check.is("no such PRAM", g.forms(2, 0), -1);
@@ -115,6 +116,8 @@ public final class ViewsTest {
         check.is("n 6", g.ways(0, 0, 6), -1);
         check.is("n -1", g.ways(0, 0, -1), -1);
         check.is("VIEWS 64", g.ways(0, 64, 0), -1);
+        check.is("VIEWS 63", g.ways(0, 63, 0), 0);
+        g.ways(0, 7, 5);
         check.is("VIEWS -1", g.ways(0, -1, 0), -1);
         check.is("no such PRAM", g.ways(1, 0, 0), -1);
         check.row("the ROW stays", g, 0, 0, 1, 1, 2);
@@ -194,6 +197,7 @@ public final class ViewsTest {
         check.is("those that run into a round, too", two.rounds(), 3);
         check.row("those that run into a round, too", two, 1);
         PramGardens none = Check.garden("22#1..", "");
+        none.laws();
         check.is("none", none.rounds(), 0);
         check.row("none", none);
     }
