@@ -14,6 +14,7 @@ public final class PramGardens {
     private static final int MOST_PRAM_SIGNS = 15;
     private static final int MOST_WALK_SIGNS = 60;
     private static final int FARTHEST = 5;
+    private static final int LAWS = 35;
     /** The highest v that may be heard, for each what. */
     private static final int[] HIGHEST_HEARD = {5, 5, 3, 5, 1};
 
@@ -528,19 +529,31 @@ public final class PramGardens {
     }
 
     public int laws() {
-        int laws = 0;
+        long fitting = fittingLaws();
         numbers.clear();
-        for (int a = 1; a <= FARTHEST; a++) {
-            for (int b = 0; b <= SIGHTS; b++) {
-                if (fitsSeen(a, b)) {
-                    if (laws == 0) {
-                        numbers.tellTwo(a, b);
-                    }
-                    laws++;
-                }
+        for (int law = 0; law < LAWS && numbers.size == 0; law++) {
+            if ((fitting >> law & 1) == 1) {
+                numbers.tellTwo(lawsA(law), lawsB(law));
             }
         }
-        return laws;
+        return Long.bitCount(fitting);
+    }
+
+    /** Bits of laws, which are numbered by rising a, then b. */
+    private long fittingLaws() {
+        long fitting = 0;
+        for (int law = 0; law < LAWS; law++) {
+            fitting |= fitsSeen(lawsA(law), lawsB(law)) ? 1L << law : 0;
+        }
+        return fitting;
+    }
+
+    private static int lawsA(int law) {
+        return 1 + law / (SIGHTS + 1);
+    }
+
+    private static int lawsB(int law) {
+        return law % (SIGHTS + 1);
     }
 
     private boolean fitsSeen(int a, int b) {
@@ -559,40 +572,33 @@ public final class PramGardens {
     }
 
     public int looks() {
+        long fitting = fittingLaws();
+        if (fitting == 0) {
+            return -2;
+        }
         int best = NONE;
         int fewest = 0;
         for (int d = 1; d <= FARTHEST; d++) {
             for (int v = 0; v <= SIGHTS; v++) {
-                int left = lawsLeftAtMost(10 * d + v);
+                int left = lawsLeftAtMost(fitting, 10 * d + v);
                 if (best == NONE || left < fewest) {
                     best = 10 * d + v;
                     fewest = left;
                 }
             }
         }
-        // a look always leaves one law at most, if there is one at all
-        if (fewest == 0) {
-            return -2;
-        }
         numbers.tellOne(fewest);
         return best;
     }
 
-    private int lawsLeftAtMost(int look) {
+    private static int lawsLeftAtMost(long fitting, int look) {
         int formed = 0;
-        int not = 0;
-        for (int a = 1; a <= FARTHEST; a++) {
-            for (int b = 0; b <= SIGHTS; b++) {
-                if (fitsSeen(a, b)) {
-                    if (isFormed(a, b, look)) {
-                        formed++;
-                    } else {
-                        not++;
-                    }
-                }
+        for (int law = 0; law < LAWS; law++) {
+            if ((fitting >> law & 1) == 1 && isFormed(lawsA(law), lawsB(law), look)) {
+                formed++;
             }
         }
-        return Math.max(formed, not);
+        return Math.max(formed, Long.bitCount(fitting) - formed);
     }
 
     // ---- which one it was
