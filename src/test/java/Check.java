@@ -20,6 +20,15 @@ final class Check {
         promise = "promise " + number + " (" + name + ")";
     }
 
+    /** What is asked from here on belongs to a case, whose name tells promise and case. */
+    void startCase(String name) {
+        promise = name;
+    }
+
+    int faults() {
+        return wrong;
+    }
+
     void is(String call, long got, long due) {
         asked++;
         if (got != due) {
@@ -60,7 +69,51 @@ final class Check {
         }
     }
 
-    private void fault(String what) {
+    /** A call that is refused: its answer, and that nothing but THE TEXT changes by it, not even the ROW. */
+    void refused(String call, PramGardens g, long due, Asked asked) {
+        unchanged(call, g, true, () -> is(call, asked.answer(), due));
+    }
+
+    /** A call that reads THE TEXT and refuses it: as refused(), and THE TEXT is empty then. */
+    void refusedText(String call, PramGardens g, String text, long due, Asked asked) {
+        write(g, text);
+        refused(call + " of '" + text + "'", g, due, asked);
+        is("count(12) behind " + call + " of '" + text + "'", g.count(12), 0);
+    }
+
+    /** A question: its answer, and that nothing but the ROW changes by it. */
+    void question(String call, PramGardens g, long due, Asked asked) {
+        int signs = g.count(12);
+        unchanged(call, g, false, () -> is(call, asked.answer(), due));
+        is("count(12) behind " + call, g.count(12), signs);
+    }
+
+    private void unchanged(String call, PramGardens g, boolean withRow, Runnable asking) {
+        asked++;
+        String before = stateOf(g, withRow);
+        asking.run();
+        String behind = stateOf(g, withRow);
+        if (!before.equals(behind)) {
+            fault(call + " changed " + before + " into " + behind);
+        }
+    }
+
+    /** All that can be asked for without a change, but THE TEXT and, if it is not wanted, the ROW. */
+    private static String stateOf(PramGardens g, boolean withRow) {
+        StringBuilder state = new StringBuilder("counts");
+        for (int what = 0; what < 11; what++) {
+            state.append(' ').append(g.count(what));
+        }
+        state.append(", prams");
+        for (int pram = 0; pram < g.count(2); pram++) {
+            for (int what = 0; what < 3; what++) {
+                state.append(' ').append(g.pram(pram, what));
+            }
+        }
+        return state.append(withRow ? ", row " + Arrays.toString(rowOf(g)) : "").toString();
+    }
+
+    void fault(String what) {
         wrong++;
         System.out.println(test + ", " + promise + ": " + what);
     }
