@@ -36,8 +36,9 @@ public final class GamesTest {
     private static void pondByPlay() {
         check.promise(41, "pond");
         boolean[][][] wins = new boolean[10][10][10];
-        PramGardens g = new PramGardens();
         for (int i = 0; i < 1000; i++) {
+            // an object is asked 512 times at most
+            PramGardens g = new PramGardens();
             int[] heaps = {i / 100, i / 10 % 10, i % 10};
             long[] move = {};
             for (int heap = 2; heap >= 0; heap--) {
