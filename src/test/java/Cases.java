@@ -1,5 +1,6 @@
 import java.lang.reflect.InvocationTargetException;
 import java.lang.reflect.Method;
+import java.lang.reflect.Modifier;
 import java.util.Arrays;
 import java.util.Comparator;
 import java.util.List;
@@ -8,12 +9,15 @@ import java.util.List;
 abstract class Cases {
     private static final int MOST_SECONDS = 300;
 
+    /** Gardens in which two ways go round a WALL: a . b, . # ., . . c. */
+    static final String ROUND = "33a.b.#...c";
+    /** Gardens of 6 by 6 through which there is one path alone: 0 to 5, 11, 17 to 12, 18, 24 to 29, 35. */
+    static final String SNAKE = "66" + "......" + "#####." + "......" + ".#####" + "......" + "#####.";
+
     static void runAll(Class<?> test) throws IllegalAccessException {
         watch(test.getName());
         Check check = new Check(test.getName());
-        List<Method> cases = Arrays.stream(test.getDeclaredMethods())
-            .filter(method -> method.getName().matches("(p\\d\\d|terms\\d)_\\w+"))
-            .sorted(Comparator.comparing(Method::getName)).toList();
+        List<Method> cases = casesOf(test);
         int broken = 0;
         for (Method one : cases) {
             int faults = check.faults();
@@ -27,6 +31,19 @@ abstract class Cases {
         }
         System.out.println(test.getName() + ": " + cases.size() + " cases, " + broken + " of them broken");
         check.finish();
+    }
+
+    /** By their names; helpers of a test are private. */
+    static List<Method> casesOf(Class<?> test) {
+        List<Method> cases = Arrays.stream(test.getDeclaredMethods())
+            .filter(method -> !Modifier.isPrivate(method.getModifiers()) && !method.getName().equals("main"))
+            .sorted(Comparator.comparing(Method::getName)).toList();
+        for (Method one : cases) {
+            if (!one.getName().matches("(p\\d\\d|terms\\d)_\\w+")) {
+                throw new IllegalArgumentException("no promise can be told from " + one.getName());
+            }
+        }
+        return cases;
     }
 
     /** A call that never ends would hold up all else. */
@@ -60,7 +77,4 @@ abstract class Cases {
     static PramGardens withRule(PramGardens g, String rule) {
         return Check.withRule(g, rule);
     }
-
-    /** Open gardens of 6 by 6 through which there is one path alone: 0 to 5, 11, 17 to 12, 18, 24 to 29, 35. */
-    static final String SNAKE = "66" + "......" + "#####." + "......" + ".#####" + "......" + "#####.";
 }

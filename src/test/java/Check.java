@@ -51,6 +51,16 @@ final class Check {
         throwsNone("row(-1)", () -> g.row(-1));
     }
 
+    /** Of each PRAM what pram() tells of it, from what 0 on. */
+    void prams(PramGardens g, int[][] due) {
+        is("PRAMS", g.count(2), due.length);
+        for (int pram = 0; pram < due.length; pram++) {
+            for (int what = 0; what < due[pram].length; what++) {
+                is("pram(" + pram + ", " + what + ")", g.pram(pram, what), due[pram][what]);
+            }
+        }
+    }
+
     static long[] rowOf(PramGardens g) {
         long[] row = new long[g.count(11)];
         for (int i = 0; i < row.length; i++) {

@@ -1,8 +1,5 @@
 /** The edges that promises 41 to 48 name: the pond, another rule, shoulders, years, what is kept, counts and the ROW. */
 public final class EdgesOfGamesTest extends Cases {
-    /** a . b, . # ., . . c: gardens in which two ways go round a WALL. */
-    private static final String ROUND = "33a.b.#...c";
-
     public static void main(String[] args) throws Exception {
         runAll(EdgesOfGamesTest.class);
     }
@@ -216,6 +213,22 @@ public final class EdgesOfGamesTest extends Cases {
         }
     }
 
+    static void p44_behindGardensWhosePramsAreGone(Check check) {
+        PramGardens g = garden("22....", "000;000");
+        g.looses(0);
+        g.looses(1);
+        g.sheet(0, 2, 63, 0);
+        // seed 0 pushes, so that both stay LOOSE
+        g.years(0, 1);
+        check.row("with two", g, 2, 63);
+        write(g, "22....").gardens();
+        g.years(0, 1);
+        check.row("without", g, 0, 0);
+        write(g, "000").prams();
+        g.years(0, 1);
+        check.row("with a new one", g, 0, 0);
+    }
+
     static void p44_aDrawOf0Pushes(Check check) {
         // seed 0: R / 65536 is 0, 54236, 42756: pushes() of PRAM 0 up
         PramGardens g = garden("33.a.......", "210");
@@ -281,6 +294,24 @@ public final class EdgesOfGamesTest extends Cases {
             check.is("years(0, " + n + ")", g.years(0, n), formed[n - 1]);
             check.row("years(0, " + n + ")", g, loose[n - 1], views[n - 1]);
         }
+    }
+
+    static void p44_viewsOfEachPramAreAddedUp(Check check) {
+        // seed 3: a MINUTE, in which both form both
+        PramGardens g = garden("241.ab....", "000;000");
+        g.looses(0);
+        g.looses(1);
+        check.is("years(3, 1)", g.years(3, 1), 4);
+        check.row("years(3, 1)", g, 2, 3);
+    }
+
+    static void p44_theMinuteGoesOnInIt(Check check) {
+        // seed 3: two MINUTES; a is formed in the second one alone
+        PramGardens g = garden("2511.ab.....", "000", "n=1");
+        g.looses(0);
+        check.is("years(3, 1)", g.years(3, 1), 0);
+        check.is("years(3, 2)", g.years(3, 2), 2);
+        check.row("years(3, 2)", g, 1, 3);
     }
 
     static void p44_seedsAtTheEndsOfInts(Check check) {
@@ -378,12 +409,22 @@ public final class EdgesOfGamesTest extends Cases {
         g.faces(2, 0);
         check.is("again(2)", g.again(2), true);
         int[][] due = {{0, 0, 60, 1}, {1, 0, 61, 1}, {2, 3, 62, 0}, {7, 2, 63, 1}};
-        for (int pram = 0; pram < 4; pram++) {
-            for (int what = 0; what < 4; what++) {
-                check.is("pram(" + pram + ", " + what + ")", g.pram(pram, what), due[pram][what]);
-            }
-        }
+        check.prams(g, due);
         check.is("MINUTE", g.count(5), 0);
+    }
+
+    static void p46_pramsOnTheLastFields(Check check) {
+        PramGardens g = garden("66" + ".".repeat(36), "553;552;541;530");
+        g.keep(0);
+        for (int pram = 0; pram < 4; pram++) {
+            g.pushes(pram, 0);
+        }
+        g.again(0);
+        int[][] due = {{35, 3}, {35, 2}, {34, 1}, {33, 0}};
+        for (int pram = 0; pram < 4; pram++) {
+            check.is("FIELD of " + pram, g.pram(pram, 0), due[pram][0]);
+            check.is("WAY of " + pram, g.pram(pram, 1), due[pram][1]);
+        }
     }
 
     static void p46_nothingKept(Check check) {

@@ -191,6 +191,15 @@ public final class EdgesOfLawsTest extends Cases {
         check.row("looks()", g, 4);
     }
 
+    static void p36_theLeastLawCountsToo(Check check) {
+        PramGardens g = new PramGardens();
+        // a is 1, b is 0 or 1: by no VIEW both form it
+        g.saw(2, 0, 0);
+        g.saw(1, 2, 0);
+        check.is("looks()", g.looks(), 11);
+        check.row("looks()", g, 1);
+    }
+
     static void p36_tenSeenAreNoHindrance(Check check) {
         PramGardens g = new PramGardens();
         for (int i = 0; i < 10; i++) {

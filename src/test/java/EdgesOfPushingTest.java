@@ -1,8 +1,5 @@
 /** The edges that promises 10 to 17 name: pushing, turning, letting go, minutes, forgetting, walks and what is undone. */
 public final class EdgesOfPushingTest extends Cases {
-    /** a . b, . # ., . . c: gardens in which two ways go round a WALL. */
-    private static final String ROUND = "33a.b.#...c";
-
     public static void main(String[] args) throws Exception {
         runAll(EdgesOfPushingTest.class);
     }
@@ -632,11 +629,7 @@ public final class EdgesOfPushingTest extends Cases {
         g.minutes(4);
         check.is("undo()", g.undo(), 4);
         int[][] due = {{0, 0, 0, 1}, {1, 0, 0, 1}, {2, 3, 0, 1}, {7, 2, 0, 1}};
-        for (int pram = 0; pram < 4; pram++) {
-            for (int what = 0; what < 4; what++) {
-                check.is("pram(" + pram + ", " + what + ")", g.pram(pram, what), due[pram][what]);
-            }
-        }
+        check.prams(g, due);
     }
 
     static void p17_fifteenAreKept(Check check) {
@@ -677,6 +670,32 @@ public final class EdgesOfPushingTest extends Cases {
             check.is("MINUTE", g.count(5), 25 + i);
         }
         check.is("undo() of none", g.undo(), -1);
+    }
+
+    static void p17_ofSixteenPushesTheLatestFifteenAreKept(Check check) {
+        PramGardens g = garden("66" + ".".repeat(36), "000");
+        int[] fields = {0, 1, 2, 3, 4, 5, 11, 17, 23, 29, 35, 34, 33, 32, 31, 30, 24};
+        for (int i = 0; i < 16; i++) {
+            g.pushes(0, i < 5 ? 1 : i < 10 ? 2 : i < 15 ? 3 : 0);
+        }
+        check.is("FIELD", g.pram(0, 0), fields[16]);
+        for (int i = 15; i >= 1; i--) {
+            check.is("undo()", g.undo(), i - 1);
+            check.is("FIELD", g.pram(0, 0), fields[i]);
+        }
+        check.is("undo() of none", g.undo(), -1);
+    }
+
+    static void p17_pramsOnTheLastFieldsComeBack(Check check) {
+        PramGardens g = garden("66" + ".".repeat(36), "553;552;541;530");
+        g.sheet(0, 4, 63, -1);
+        for (int pram = 0; pram < 4; pram++) {
+            g.looses(pram);
+        }
+        write(g, "c0c1c2c3t00p00t10p10t20p20p30n9").walk();
+        check.is("undo()", g.undo(), 4);
+        int[][] due = {{35, 3, 63, 1}, {35, 2, 62, 1}, {34, 1, 61, 1}, {33, 0, 60, 1}};
+        check.prams(g, due);
     }
 
     static void p17_actsGoOnBehindIt(Check check) {

@@ -1,8 +1,5 @@
 /** The edges that promises 18 to 25 name: what is seen, stands, ways, parts, gates and the nearest. */
 public final class EdgesOfSeeingTest extends Cases {
-    /** a . b, . # ., . . c: gardens in which two ways go round a WALL. */
-    private static final String ROUND = "33a.b.#...c";
-
     public static void main(String[] args) throws Exception {
         runAll(EdgesOfSeeingTest.class);
     }
@@ -208,6 +205,33 @@ public final class EdgesOfSeeingTest extends Cases {
         check.row("stands(0)", g, 1, 4 * 8 + 3);
     }
 
+    static void p20_askedTwice(Check check) {
+        PramGardens g = garden(ROUND, "200");
+        for (int i = 0; i < 2; i++) {
+            check.is("stands(0)", g.stands(0), 3);
+            check.row("stands(0)", g, 7, 1, 7, 10);
+        }
+    }
+
+    static void p20_askedAgainByAnotherRule(Check check) {
+        PramGardens g = garden("26.abcde......", "100", "9");
+        check.is("by 9", g.stands(0), 1);
+        check.row("by 9", g, 31, 1);
+        check.is("by d=1", withRule(g, "d=1").stands(0), 5);
+        check.row("by d=1", g, 31, 1, 5, 9, 13, 17);
+        check.is("by d=5", withRule(g, "d=5").stands(0), 1);
+        check.row("by d=5", g, 16, 1);
+        check.is("by 0", withRule(g, "0").stands(0), 0);
+        check.row("by 0", g, 0);
+    }
+
+    static void p20_amongSightsOnAllFields(Check check) {
+        PramGardens g = garden("66" + "abcdef".repeat(6), "000", "9");
+        // b to f from FIELD 0 to the right, a from there down
+        check.is("stands(0)", g.stands(0), 2);
+        check.row("stands(0)", g, 63, 1, 2);
+    }
+
     static void p20_noneSuch(Check check) {
         PramGardens g = garden(ROUND, "200");
         g.laws();
@@ -388,6 +412,15 @@ public final class EdgesOfSeeingTest extends Cases {
         // FIELDS 2 and 3 follow one another, but are not next to each other
         PramGardens g = garden("23##..##", "");
         check.is("parts()", g.parts(), 2);
+        check.row("parts()", g, 1, 2);
+    }
+
+    static void p23_askedAgainInSmallerGardens(Check check) {
+        PramGardens g = garden("66" + ".".repeat(36), "");
+        check.is("parts()", g.parts(), 1);
+        check.row("parts()", g, 36, 0);
+        write(g, "22##.#").gardens();
+        check.is("parts()", g.parts(), 1);
         check.row("parts()", g, 1, 2);
     }
 

@@ -346,14 +346,12 @@ public final class EdgesOfTextsTest extends Cases {
 
     static void p05_linesComeBehindThoseThatAreThere(Check check) {
         PramGardens g = garden("23#...a1", "012");
+        g.sheet(0, 1, 9, 0);
         g.looses(0);
+        g.minutes(0);
         check.is("prams()", write(g, "121;103").prams(), 2);
-        int[][] due = {{1, 2, 0, 1}, {5, 1, 0, 0}, {3, 3, 0, 0}};
-        for (int pram = 0; pram < 3; pram++) {
-            for (int what = 0; what < 4; what++) {
-                check.is("pram(" + pram + ", " + what + ")", g.pram(pram, what), due[pram][what]);
-            }
-        }
+        int[][] due = {{1, 2, 9, 1}, {5, 1, 0, 0}, {3, 3, 0, 0}};
+        check.prams(g, due);
     }
 
     static void p05_severalCanBeOnOneField(Check check) {
@@ -498,6 +496,14 @@ public final class EdgesOfTextsTest extends Cases {
         ruleIs(check, "-".repeat(31) + "((((d))))", 0);
     }
 
+    static void p06_fortySignsAreReckonedWhole(Check check) {
+        PramGardens g = garden("22.a..", "001");
+        check.is("39 times - ahead of d", withRule(g, "-".repeat(39) + "d").sees(0), 0);
+        check.is("1 less 37 times - ahead of 2", withRule(g, "1-" + "-".repeat(37) + "2").sees(0), 1);
+        check.is("19 times less 1 from 19", withRule(g, "19" + "-1".repeat(19)).sees(0), 0);
+        check.is("19 times less 1 from 20", withRule(g, "20" + "-1".repeat(19)).sees(0), 1);
+    }
+
     static void p06_fortySignsThatEndTooEarly(Check check) {
         ruleIs(check, "-".repeat(40), -41);
         ruleIs(check, "-".repeat(38) + "d+", -41);
@@ -623,6 +629,21 @@ public final class EdgesOfTextsTest extends Cases {
         }
     }
 
+    static void p06_aRefusedOneDoesNotWeighOnTheNext(Check check) {
+        for (String text : new String[] {"-x", "0*x", "((((x", "1<x", "(0-x", "1<2<", "-".repeat(41)}) {
+            PramGardens g = garden("22.a..", "001", "0");
+            write(g, text).rule();
+            check.is("rule() behind " + text, write(g, "((((1))))").rule(), 0);
+            check.is("sees(0)", g.sees(0), 1);
+            write(g, text).rule();
+            check.is("rule() behind " + text, write(g, "1<2").rule(), 0);
+            check.is("sees(0)", g.sees(0), 1);
+            write(g, text).rule();
+            check.is("rule() of none behind " + text, write(g, "").rule(), 0);
+            check.is("sees(0)", g.sees(0), 1);
+        }
+    }
+
     static void p06_itTakesThePlaceOfTheOneAhead(Check check) {
         PramGardens g = garden("22.a..", "001", "((1+2)*3-4)/5=1");
         check.is("by the first", g.sees(0), 1);
@@ -679,11 +700,7 @@ public final class EdgesOfTextsTest extends Cases {
         g.sheet(0, 2, 5, 7);
         g.looses(1);
         int[][] due = {{1, 2, 5, 0, 4}, {5, 1, 12, 1, -1}};
-        for (int pram = 0; pram < 2; pram++) {
-            for (int what = 0; what < 5; what++) {
-                check.is("pram(" + pram + ", " + what + ")", g.pram(pram, what), due[pram][what]);
-            }
-        }
+        check.prams(g, due);
     }
 
     static void p08_nothingIsAheadAtEachEdge(Check check) {

@@ -1,7 +1,5 @@
 /** The edges that promises 26 to 32 name: views to be formed, straying by chance, running loose. */
 public final class EdgesOfViewsTest extends Cases {
-    /** a . b, . # ., . . c: gardens in which two ways go round a WALL. */
-    private static final String ROUND = "33a.b.#...c";
     /** All 36 FIELDS but the last are SLOPES, from 0 on one behind the other; the last is FIELD 30. */
     private static final String RUN = "66" + "111112" + "233333" + "111112" + "233333" + "111112";
 
@@ -85,6 +83,25 @@ public final class EdgesOfViewsTest extends Cases {
         check.is("forms(0, 0)", g.forms(0, 0), 0);
     }
 
+    static void p26_byNoneInAnotherPart(Check check) {
+        // a is seen in the first ROW alone, which lies apart
+        PramGardens g = garden("33..a###...", "200;000");
+        check.is("forms(0, 1)", g.forms(0, 1), -2);
+        check.is("forms(1, 1)", g.forms(1, 1), 1);
+        check.is("most(0)", g.most(0), 0);
+        check.row("most(0)", g, 0);
+    }
+
+    static void p26_ofEachPramByItsOwnNumber(Check check) {
+        PramGardens g = garden("24...a....", "000;000;000", "i=1");
+        int[] due = {-2, 1, -2};
+        for (int pram = 0; pram < 3; pram++) {
+            check.is("forms(" + pram + ", 1)", g.forms(pram, 1), due[pram]);
+            check.is("most(" + pram + ")", g.most(pram), pram == 1 ? 1 : 0);
+            check.is("ways(" + pram + ", 1, 1)", g.ways(pram, 1, 1), pram == 1 ? 1 : 0);
+        }
+    }
+
     static void p26_aLooseOne(Check check) {
         PramGardens g = garden(ROUND, "200");
         g.laws();
@@ -164,6 +181,15 @@ public final class EdgesOfViewsTest extends Cases {
         // from FIELD 1 to the right: four at once, and none behind that
         check.is("most(0)", g.most(0), 4);
         check.row("most(0)", g, 2);
+    }
+
+    static void p27_askedAgainByAnotherRule(Check check) {
+        PramGardens g = garden(ROUND, "200");
+        check.is("by none", g.most(0), 3);
+        check.is("by 0", withRule(g, "0").most(0), 0);
+        check.row("by 0", g, 0);
+        check.is("by s=2", withRule(g, "s=2").most(0), 1);
+        check.row("by s=2", g, 1);
     }
 
     static void p27_aLooseOne(Check check) {
