@@ -24,7 +24,7 @@ public final class TwinTest {
     }
 
     public static void main(String[] args) throws Exception {
-        int runs = args.length > 0 ? Integer.parseInt(args[0]) : 3000;
+        int runs = args.length > 0 ? Integer.parseInt(args[0]) : 20000;
         long from = args.length > 1 ? Long.parseLong(args[1]) : 1;
         long[] answers = {0, 0};
         for (long seed = from; seed < from + runs; seed++) {
