@@ -5,6 +5,7 @@ import java.lang.reflect.Modifier;
 import java.nio.file.Files;
 import java.nio.file.Path;
 import java.util.Arrays;
+import java.util.HashSet;
 import java.util.Set;
 import java.util.TreeSet;
 import java.util.stream.Collectors;
@@ -26,6 +27,7 @@ public final class FaceTest {
         members();
         classesInside();
         signsOfTheSource();
+        sizes();
         room();
         check.finish();
     }
@@ -74,10 +76,10 @@ public final class FaceTest {
     }
 
     private static void signsOfTheSource() throws Exception {
-        String source = Files.readString(Path.of("src/main/java/PramGardens.java"));
+        String source = source();
         check.is("the source has signs 1 to 127 alone", source.chars().allMatch(c -> c > 0 && c < 128), true);
-        String code = source.replaceAll("(?s)/\\*.*?\\*/", "").replaceAll("//[^\n]*", "").replaceAll("\"[^\"\n]*\"", "\"\"");
-        String[] ruledOut = {"finally", "::", "synchronized", "assert", "static {", "Exact(", "package ", "instanceof Object"
+        String code = codeOf(source);
+        String[] ruledOut = {"finally", "::", "->", "hashCode", "synchronized", "assert", "static {", "Exact(", "package ", "instanceof Object"
             , "ArrayIndexOutOfBoundsException", "NullPointerException", "ClassCastException", "NegativeArraySizeException"
             , "ArrayStoreException", "catch (Exception", "catch (Throwable", "System.out", "System.nanoTime", "System.currentTime"
             , "Random", "Thread"};
@@ -87,6 +89,38 @@ public final class FaceTest {
         Set<String> library = Set.of("Arrays", "ArrayList", "List", "Iterator", "NoSuchElementException");
         code.lines().filter(line -> line.startsWith("import ")).forEach(line ->
             check.is(line, library.contains(line.replace("import java.util.", "").replace(";", "").trim()), true));
+    }
+
+    private static String source() throws Exception {
+        return Files.readString(Path.of("src/main/java/PramGardens.java"));
+    }
+
+    private static String codeOf(String source) {
+        return source.replaceAll("(?s)/\\*.*?\\*/", "").replaceAll("//[^\n]*", "").replaceAll("\"[^\"\n]*\"", "\"\"");
+    }
+
+    /** Short methods, and few fields beside constants. */
+    private static void sizes() throws Exception {
+        Set<Class<?>> all = new HashSet<>(Arrays.asList(PramGardens.class.getDeclaredClasses()));
+        all.add(PramGardens.class);
+        for (Class<?> one : all) {
+            long fields = Arrays.stream(one.getDeclaredFields()).filter(field -> !Modifier.isStatic(field.getModifiers())).count();
+            check.is(one.getName() + " has at most twenty fields, not " + fields, fields <= 20, true);
+        }
+        int methods = 0;
+        String head = "";
+        int length = 0;
+        for (String line : source().split("\n")) {
+            boolean starts = line.matches("( {4}| {8})[A-Za-z].*\\) (throws \\w+ )?\\{") && !line.matches(" *(for|if|while|switch|else).*");
+            head = starts ? line : head;
+            length = starts ? 1 : length + 1;
+            if (!head.isEmpty() && line.equals(head.replaceAll("\\S.*", "") + "}")) {
+                check.is(head.trim() + " has at most sixty lines, not " + length, length <= 60, true);
+                methods++;
+                head = "";
+            }
+        }
+        check.is("methods were found, not " + methods, methods > 48, true);
     }
 
     /** Calls make no objects: what they need is made with the object itself, which is small. */
